@@ -1,0 +1,93 @@
+/** Counts what is not as it is due, and ends a test with exit code 1 if anything was not. */
+final class Checks {
+    interface Call {
+        Object run();
+    }
+
+    private int wrong = 0;
+    private int done = 0;
+
+    /** What a call answers, or throws.X for an exception X. */
+    static Object answer(Call call) {
+        try {
+            return call.run();
+        } catch (RuntimeException e) {
+            return "throws." + e.getClass().getSimpleName();
+        }
+    }
+
+    void due(String what, Object want, Call call) {
+        Object got = answer(call);
+        done++;
+        if (!want.equals(got)) {
+            wrong++;
+            System.out.println(what + " answered " + got + ", due is " + want);
+        }
+    }
+
+    void state(String what, Call call) {
+        due(what, "throws.IllegalStateException", call);
+    }
+
+    void index(String what, Call call) {
+        due(what, "throws.IndexOutOfBoundsException", call);
+    }
+
+    void argument(String what, Call call) {
+        due(what, "throws.IllegalArgumentException", call);
+    }
+
+    void end() {
+        System.out.println(done + " answers looked at, " + wrong + " wrong");
+        if (wrong > 0 || done == 0) {
+            System.exit(1);
+        }
+    }
+
+    static void typeAll(MaskedCauses m, String text) {
+        for (char c : text.toCharArray()) {
+            m.type(c);
+        }
+    }
+
+    /** Types a text and reads it as a decision. */
+    static int decide(MaskedCauses m, String text, boolean isShort) {
+        typeAll(m, text);
+        return m.decision(isShort);
+    }
+
+    static String page(MaskedCauses m) {
+        StringBuilder page = new StringBuilder();
+        for (int p = 0; p < m.length(); p++) {
+            page.append(m.charAt(p));
+        }
+        return page.toString();
+    }
+
+    /** Shows a decision and answers the page. */
+    static String shown(MaskedCauses m, int decision) {
+        m.show(decision);
+        return page(m);
+    }
+
+    static String suite(MaskedCauses m, int decision, int criterion) {
+        StringBuilder words = new StringBuilder();
+        int count = m.suite(decision, criterion);
+        for (int i = 0; i < count; i++) {
+            words.append(i == 0 ? "" : " ").append(m.suiteAt(i));
+        }
+        return words.toString();
+    }
+
+    /** An object with three inputs 0 .. 2 and, on them, conditions that are true when above 0 or 1. */
+    static MaskedCauses withSixFree() {
+        MaskedCauses m = new MaskedCauses();
+        for (int i = 0; i < 3; i++) {
+            m.input(-20, 20);
+        }
+        for (int i = 0; i < 8; i++) {
+            m.condition(i % 2 == 0 ? 0 : 3, i % 3, -1, i);
+        }
+        return m;
+    }
+}

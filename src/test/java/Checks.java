@@ -79,14 +79,26 @@ final class Checks {
         return words.toString();
     }
 
-    /** An object with three inputs 0 .. 2 and, on them, conditions that are true when above 0 or 1. */
-    static MaskedCauses withSixFree() {
+    /** An object with all inputs at their widest and all eight conditions, A to H. */
+    static MaskedCauses withEight() {
         MaskedCauses m = new MaskedCauses();
         for (int i = 0; i < 3; i++) {
             m.input(-20, 20);
         }
         for (int i = 0; i < 8; i++) {
             m.condition(i % 2 == 0 ? 0 : 3, i % 3, -1, i);
+        }
+        return m;
+    }
+
+    /** An object with three inputs 0 .. 1, each of which has one condition, true for 1: A, B, C. */
+    static MaskedCauses withThreeFree() {
+        MaskedCauses m = new MaskedCauses();
+        for (int i = 0; i < 3; i++) {
+            m.input(0, 1);
+        }
+        for (int i = 0; i < 3; i++) {
+            m.condition(2, i, -1, 1);
         }
         return m;
     }

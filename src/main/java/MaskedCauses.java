@@ -1,6 +1,6 @@
 /**
- * Tests for decisions: which words of truth some inputs can give, which two words show that a
- * condition decides by itself, and what recorded vectors show.
+ * Tests for decisions: which truth values of their conditions some inputs can give, which two words
+ * show that a condition decides by itself, and what recorded vectors show.
  *
  * <p>A set of words is a long whose bit w says whether word w is in it (there are at most 64), and
  * a set of conditions or inputs is an int of the same kind. A decision never changes once it is
@@ -648,7 +648,7 @@ public final class MaskedCauses {
             }
         }
 
-        /** The words that are in the set when a condition of theirs is turned round. */
+        /** The words that are in the set once a condition of theirs is turned round. */
         private static long turned(long words, int condition) {
             long holding = TRUE_WORDS[condition];
             int step = 1 << condition;

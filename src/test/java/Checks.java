@@ -102,4 +102,28 @@ final class Checks {
         }
         return m;
     }
+
+    /** An object with three inputs 0 .. 2 and, for each, a condition that is true for 1 and one for 2. */
+    static MaskedCauses withSix() {
+        MaskedCauses m = new MaskedCauses();
+        for (int i = 0; i < 3; i++) {
+            m.input(0, 2);
+        }
+        for (int i = 0; i < 6; i++) {
+            m.condition(2, i / 2, -1, 1 + i % 2);
+        }
+        return m;
+    }
+
+    /** A: x < 1, B: y - x <= 0, C: y == 1; words 4 and 7 of its decision are not feasible. */
+    static MaskedCauses withTwoCoupled() {
+        MaskedCauses m = new MaskedCauses();
+        m.input(0, 1);
+        m.input(0, 2);
+        m.condition(1, 0, -1, 1);
+        m.condition(0, 1, 0, 0);
+        m.condition(2, 1, -1, 1);
+        decide(m, "B&A^C", false);
+        return m;
+    }
 }

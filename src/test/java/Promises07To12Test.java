@@ -8,6 +8,8 @@ public final class Promises07To12Test {
         showReplacesThePage();
         feasible();
         vectorIsTheFirst();
+        vectorOfAllDifferences();
+        vectorOfWidestDifferences();
         vectorExceptions();
         laterConditionsChangeNothing();
         outcomes();
@@ -122,13 +124,58 @@ public final class Promises07To12Test {
             if (want[w].isEmpty()) {
                 CHECKS.state("10: word " + w, () -> m.vector(0, w, 0));
             } else {
-                CHECKS.due("10: word " + w, want[w],
-                        () -> m.vector(0, w, 0) + " " + m.vector(0, w, 1) + " " + m.vector(0, w, 2));
+                CHECKS.due("10: word " + w, want[w], () -> vectorOf(m, 0, w));
             }
         }
         Checks.decide(m, "B", true);
-        CHECKS.due("10: inputs without a condition are least", "-3 -3 5",
-                () -> m.vector(1, 0, 0) + " " + m.vector(1, 0, 1) + " " + m.vector(1, 0, 2));
+        CHECKS.due("10: inputs without a condition are least", "-3 -3 5", () -> vectorOf(m, 1, 0));
+    }
+
+    private static String vectorOf(MaskedCauses m, int decision, int word) {
+        return m.vector(decision, word, 0) + " " + m.vector(decision, word, 1) + " "
+                + m.vector(decision, word, 2);
+    }
+
+    /** Each input minus each other one, in decisions that know nothing of one another. */
+    private static void vectorOfAllDifferences() {
+        int[][] differences = {{0, 1}, {0, 2}, {1, 2}, {1, 0}, {2, 0}, {2, 1}};
+        String[] want = {"3 0 0", "3 0 0", "0 3 0", "0 3 0", "0 0 3", "0 0 3"};
+        for (int first = 0; first < 6; first++) {
+            MaskedCauses m = new MaskedCauses();
+            for (int i = 0; i < 3; i++) {
+                m.input(0, 4);
+            }
+            for (int[] d : differences) {
+                m.condition(2, d[0], d[1], 3);
+            }
+            for (int i = 0; i < 4; i++) {
+                int number = i;
+                int letter = (first + i) % 6;
+                Checks.decide(m, "" + (char) ('A' + letter), false);
+                CHECKS.due("10: difference " + letter, want[letter], () -> vectorOf(m, number, 1));
+                CHECKS.due("10: no difference", "0 0 0", () -> vectorOf(m, number, 0));
+            }
+        }
+    }
+
+    private static void vectorOfWidestDifferences() {
+        MaskedCauses m = new MaskedCauses();
+        m.input(-20, 20);
+        m.input(-20, 20);
+        m.condition(2, 0, 1, -40);
+        m.condition(2, 0, 1, 40);
+        m.condition(2, 1, 0, 40);
+        m.condition(0, 0, 1, 40);
+        Checks.decide(m, "A|B", false);
+        Checks.decide(m, "C", false);
+        Checks.decide(m, "D", false);
+        CHECKS.due("10: -40", "-20 20", () -> m.vector(0, 1, 0) + " " + m.vector(0, 1, 1));
+        CHECKS.due("10: 40", "20 -20", () -> m.vector(0, 2, 0) + " " + m.vector(0, 2, 1));
+        CHECKS.due("10: 40 turned round", "-20 20", () -> m.vector(1, 1, 0) + " " + m.vector(1, 1, 1));
+        CHECKS.due("9: A or B or none", 3, () -> m.feasible(0));
+        CHECKS.due("9: never more than 40", 1, () -> m.feasible(2));
+        Checks.decide(m, "D|B", false);
+        CHECKS.due("9: nothing is left of decisions before", 2, () -> m.feasible(3));
     }
 
     private static void vectorExceptions() {

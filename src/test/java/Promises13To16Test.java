@@ -47,20 +47,8 @@ public final class Promises13To16Test {
         }
     }
 
-    /** A: x < 1, B: y - x <= 0, C: y == 1; words 4 and 7 are not feasible. */
-    private static MaskedCauses withTwoCoupled() {
-        MaskedCauses m = new MaskedCauses();
-        m.input(0, 1);
-        m.input(0, 2);
-        m.condition(1, 0, -1, 1);
-        m.condition(0, 1, 0, 0);
-        m.condition(2, 1, -1, 1);
-        Checks.decide(m, "B&A^C", false);
-        return m;
-    }
-
     private static void solveByThreeCriteria() {
-        MaskedCauses m = withTwoCoupled();
+        MaskedCauses m = Checks.withTwoCoupled();
         CHECKS.due("13: unique", "203 103 105", () -> pairs(m, 0, UNIQUE));
         CHECKS.due("13: masking", "203 103 5", () -> pairs(m, 0, MASKING));
         CHECKS.due("13: coupled", "203 103 6", () -> pairs(m, 0, COUPLED));
@@ -121,17 +109,13 @@ public final class Promises13To16Test {
     }
 
     private static void solveSixConditions() {
-        MaskedCauses m = new MaskedCauses();
-        m.input(0, 2);
-        m.input(0, 2);
-        m.input(0, 2);
-        for (int i = 0; i < 6; i++) {
-            m.condition(2, i / 2, -1, 1 + i % 2);
-        }
+        MaskedCauses m = Checks.withSix();
         Checks.decide(m, "A|B|C|D|E|F", false);
         CHECKS.due("13: the greatest condition", "1 2 4 8 16 32", () -> pairs(m, 0, UNIQUE));
+        CHECKS.due("14: of six conditions", "0 1 2 4 8 16 32", () -> Checks.suite(m, 0, UNIQUE));
         Checks.decide(m, "(A|B)&(C|D)&(E|F)", false);
         CHECKS.due("13: pairs of two digits", "2021 2022 1721 1725 521 537", () -> pairs(m, 1, UNIQUE));
+        CHECKS.due("14: of six conditions", "20 21 22 17 25 5 37", () -> Checks.suite(m, 1, UNIQUE));
     }
 
     private static void solveExceptions() {
@@ -148,7 +132,7 @@ public final class Promises13To16Test {
     }
 
     private static void suites() {
-        MaskedCauses m = withTwoCoupled();
+        MaskedCauses m = Checks.withTwoCoupled();
         CHECKS.due("14: unique", "2 3 1 5", () -> Checks.suite(m, 0, UNIQUE));
         CHECKS.due("14: masking", "2 3 1 0 5", () -> Checks.suite(m, 0, MASKING));
         CHECKS.due("14: coupled", "2 3 1 0 6", () -> Checks.suite(m, 0, COUPLED));
@@ -190,7 +174,7 @@ public final class Promises13To16Test {
     }
 
     private static void suiteAt() {
-        MaskedCauses m = withTwoCoupled();
+        MaskedCauses m = Checks.withTwoCoupled();
         CHECKS.due("15: none was asked for", -1, () -> m.suiteAt(0));
         m.suite(0, UNIQUE);
         CHECKS.due("15: first", 2, () -> m.suiteAt(0));
@@ -211,7 +195,7 @@ public final class Promises13To16Test {
     }
 
     private static void suiteThatThrowsChangesNothing() {
-        MaskedCauses m = withTwoCoupled();
+        MaskedCauses m = Checks.withTwoCoupled();
         m.suite(0, UNIQUE);
         CHECKS.argument("14: criterion 3", () -> m.suite(0, 3));
         CHECKS.argument("14: criterion -1", () -> m.suite(0, -1));
@@ -222,7 +206,7 @@ public final class Promises13To16Test {
     }
 
     private static void least() {
-        MaskedCauses m = withTwoCoupled();
+        MaskedCauses m = Checks.withTwoCoupled();
         CHECKS.due("16: unique", 4, () -> m.least(0, UNIQUE));
         CHECKS.due("16: masking, less than the suite", 4, () -> m.least(0, MASKING));
         CHECKS.due("16: coupled, less than the suite", 4, () -> m.least(0, COUPLED));
@@ -230,7 +214,10 @@ public final class Promises13To16Test {
         CHECKS.due("16: nothing is solved", 0, () -> m.least(1, UNIQUE));
         Checks.decide(m, "A|A&B&!B", false);
         CHECKS.due("16: only what is solved", 2, () -> m.least(2, UNIQUE));
+        Checks.decide(m, "A", false);
+        CHECKS.due("16: one condition", 2, () -> m.least(3, UNIQUE));
         MaskedCauses same = withTwoTheSame();
+        CHECKS.due("16: A and B are not solved", 2, () -> same.least(0, UNIQUE));
         CHECKS.due("16: two words show all", 2, () -> same.least(0, MASKING));
     }
 
@@ -259,7 +246,7 @@ public final class Promises13To16Test {
     }
 
     private static void leastExceptions() {
-        MaskedCauses m = withTwoCoupled();
+        MaskedCauses m = Checks.withTwoCoupled();
         CHECKS.argument("16: criterion 3", () -> m.least(0, 3));
         CHECKS.argument("16: criterion -1", () -> m.least(0, -1));
         CHECKS.index("16: no such decision", () -> m.least(1, 0));

@@ -11,6 +11,7 @@ public final class Promises17To22Test {
         coveredByCriteria();
         coveredExceptions();
         missing();
+        missingOfSix();
         missingExceptions();
         page();
         CHECKS.end();
@@ -101,15 +102,8 @@ public final class Promises17To22Test {
         CHECKS.due("19: C by the twelfth", true, () -> m.covered(1, 2, 0));
     }
 
-    /** A: x < 1, B: y - x <= 0, C: y == 1. */
     private static void coveredByCriteria() {
-        MaskedCauses m = new MaskedCauses();
-        m.input(0, 1);
-        m.input(0, 2);
-        m.condition(1, 0, -1, 1);
-        m.condition(0, 1, 0, 0);
-        m.condition(2, 1, -1, 1);
-        Checks.decide(m, "B&A^C", false);
+        MaskedCauses m = Checks.withTwoCoupled();
         m.keep(1, 2, 0);
         m.keep(0, 1, 0);
         CHECKS.due("19: 0 and 5 by unique", false, () -> m.covered(0, 2, 0));
@@ -160,6 +154,18 @@ public final class Promises17To22Test {
         m.keep(0, 1, 1);
         CHECKS.due("20: C was first", -1, () -> m.missing(2, 0));
         CHECKS.due("20: but not by masking", 2, () -> m.missing(2, 1));
+    }
+
+    private static void missingOfSix() {
+        MaskedCauses m = Checks.withSix();
+        Checks.decide(m, "A|B|C|D|E|F", false);
+        int[][] vectors = {{0, 0, 0}, {1, 0, 0}, {2, 0, 0}, {0, 1, 0}, {0, 2, 0}, {0, 0, 1}, {0, 0, 2}};
+        for (int i = 0; i < vectors.length; i++) {
+            int[] v = vectors[i];
+            m.keep(v[0], v[1], v[2]);
+            int want = i < 6 ? i : MaskedCauses.NONE;
+            CHECKS.due("20: of six after " + (i + 1), want, () -> m.missing(0, 0));
+        }
     }
 
     private static void missingExceptions() {

@@ -1,11 +1,19 @@
+import java.util.stream.IntStream;
+
 /** Counts what is not as it is due, and ends a test with exit code 1 if anything was not. */
 final class Checks {
     interface Call {
         Object run();
     }
 
+    private static final int[] FAR = {
+        Integer.MIN_VALUE, Integer.MIN_VALUE + 1, -65536, -256, -64, -32, 32, 64, 256, 65536,
+        Integer.MAX_VALUE - 1, Integer.MAX_VALUE
+    };
+
     private int wrong = 0;
     private int done = 0;
+    private String sentence = "";
 
     /** What a call answers, or throws.X for an exception X. */
     static Object answer(Call call) {
@@ -21,8 +29,31 @@ final class Checks {
         done++;
         if (!want.equals(got)) {
             wrong++;
-            System.out.println(what + " answered " + got + ", due is " + want);
+            System.out.println(sentence + what + " answered " + got + ", due is " + want);
         }
+    }
+
+    /** A sentence of the document that names a boundary case, and the test of its own that it has. */
+    void sentence(String words, Runnable test) {
+        int before = done;
+        sentence = "\"" + words + "\": ";
+        test.run();
+        if (done == before) {
+            wrong++;
+            System.out.println(sentence + "nothing was looked at");
+        }
+        sentence = "";
+    }
+
+    /**
+     * Numbers that are not low .. high: next to it, as far out as an int goes, and so far that
+     * they would come back into it if they lost their upper bits.
+     */
+    static int[] outside(int low, int high) {
+        IntStream near = IntStream.of(low - 1, low - 2, high + 1, high + 2);
+        IntStream wrapping = IntStream.of(FAR).map(far -> low + far);
+        return IntStream.concat(IntStream.concat(near, wrapping), IntStream.of(FAR))
+                .filter(i -> i < low || i > high).distinct().toArray();
     }
 
     void state(String what, Call call) {

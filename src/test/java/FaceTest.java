@@ -69,11 +69,10 @@ public final class FaceTest {
     private static Set<String> clashes(Class<?> face) {
         Set<String> names = Stream.of(face.getMethods()).filter(m -> m.getDeclaringClass() == face)
                 .map(Method::getName).collect(Collectors.toSet());
-        Stream<Class<?>> inside = Stream.of(face.getDeclaredClasses());
-        Set<String> found = inside.flatMap(c -> Stream.of(c.getDeclaredMethods())).map(Method::getName)
+        Stream<Class<?>> all = Stream.concat(Stream.of(face), Stream.of(face.getDeclaredClasses()));
+        Set<String> found = all.flatMap(c -> Stream.of(c.getDeclaredMethods()))
+                .filter(m -> Modifier.isPrivate(m.getModifiers())).map(Method::getName)
                 .collect(Collectors.toCollection(TreeSet::new));
-        Stream.of(face.getDeclaredMethods()).filter(m -> Modifier.isPrivate(m.getModifiers()))
-                .forEach(m -> found.add(m.getName()));
         found.retainAll(names);
         return found;
     }

@@ -115,8 +115,10 @@ final class Model {
         if (deepest > 6 || lettersOf(whole).size() > 6) {
             return false;
         }
+        String before = "";
         String left = whole.replaceAll("[A-H]", "x");
-        for (int turn = 0; turn < 100; turn++) {
+        while (!left.equals(before)) {
+            before = left;
             left = left.replaceAll("!x", "x").replaceAll("\\(x([&^|]x)*\\)", "x");
         }
         return left.matches("x([&^|]x)*") && noTwoLetters(whole);

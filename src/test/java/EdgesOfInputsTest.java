@@ -21,6 +21,7 @@ public final class EdgesOfInputsTest {
     }
 
     private static void nothingAtFirst() {
+        CHECKS.due("NONE", -1, () -> MaskedCauses.NONE);
         CHECKS.due("the page's length", 0, () -> new MaskedCauses().length());
         for (int p : new int[] {0, 1, 39, 40, -1, Integer.MIN_VALUE, Integer.MAX_VALUE}) {
             CHECKS.due("the page at " + p, ' ', () -> new MaskedCauses().charAt(p));

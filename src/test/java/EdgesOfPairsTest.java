@@ -410,6 +410,11 @@ public final class EdgesOfPairsTest {
         MaskedCauses six = Checks.withSix();
         Checks.decide(six, "A|B|C|D|E|F", false);
         CHECKS.due("seven of six conditions", 7, () -> six.suite(0, UNIQUE));
+        for (int i = 0; i < 6; i++) {
+            int without = 63 - (1 << i);
+            CHECKS.due("two, the greatest words, condition " + i, without + " 63",
+                    () -> Checks.suite(decided("A&B&C&D&E&F", true, 6, 63, without), 0, UNIQUE));
+        }
         MaskedCauses m = withSuiteOfTwelve();
         CHECKS.due("twelve", 12, () -> m.suite(0, COUPLED));
         CHECKS.due("twelve", "18 19 12 15 5 17 6 46 7 23 27 59", () -> Checks.suite(m, 0, COUPLED));

@@ -15,6 +15,8 @@ public final class EdgesOfRecordsTest {
         CHECKS.sentence("19: the words that two recorded vectors give", EdgesOfRecordsTest::twoOfTwelve);
         CHECKS.sentence("19: two: not none, and not one", EdgesOfRecordsTest::noneAndOne);
         CHECKS.sentence("19: show a condition: not only by its pair", EdgesOfRecordsTest::anyTwoThatShow);
+        CHECKS.sentence("19: the words that two recorded vectors give: up to the greatest",
+                EdgesOfRecordsTest::greatestWords);
         CHECKS.sentence("19: of a decision, also one made later", EdgesOfRecordsTest::decisionsMadeLater);
         CHECKS.sentence("20: The first condition .. not covered", EdgesOfRecordsTest::firstOfSix);
         CHECKS.sentence("20: that is solved", EdgesOfRecordsTest::onlySolved);
@@ -207,6 +209,29 @@ public final class EdgesOfRecordsTest {
         Checks.decide(same, "A", false);
         CHECKS.due("the vector of word 1", -20, () -> same.vector(1, 1, 0));
         CHECKS.due("other vectors of the same words", true, () -> same.covered(1, 0, 0));
+    }
+
+    /** All six conditions are true for x = 0, and just one of them is false for x = 1. */
+    private static void greatestWords() {
+        for (int left = 0; left < 6; left++) {
+            MaskedCauses m = new MaskedCauses();
+            m.input(0, 1);
+            for (int i = 0; i < 6; i++) {
+                m.condition(0, 0, -1, i == left ? 0 : 1);
+            }
+            Checks.decide(m, "A&B&C&D&E&F", false);
+            m.keep(1, 0, 0);
+            m.keep(0, 0, 0);
+            for (int i = 0; i < 6; i++) {
+                int condition = i;
+                boolean isShown = i == left;
+                for (int criterion = 0; criterion < 3; criterion++) {
+                    int c = criterion;
+                    CHECKS.due("condition " + i + ", shown " + left, isShown, () -> m.covered(0, condition, c));
+                }
+            }
+            CHECKS.due("nothing is missing", NONE, () -> m.missing(0, 0));
+        }
     }
 
     private static void decisionsMadeLater() {

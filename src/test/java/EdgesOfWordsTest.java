@@ -21,6 +21,8 @@ public final class EdgesOfWordsTest {
                 EdgesOfWordsTest::pageFromEmptyToFull);
         CHECKS.sentence("A word is FEASIBLE if some vector gives it", EdgesOfWordsTest::feasibleWords);
         CHECKS.sentence("9: from one word to all of them", EdgesOfWordsTest::feasibleCounts);
+        CHECKS.sentence("9: How many words of a decision: none of one made before",
+                EdgesOfWordsTest::nothingOfDecisionsBefore);
         CHECKS.sentence("ITS VECTOR is .. the one whose first input is least", EdgesOfWordsTest::leastFirst);
         CHECKS.sentence("of several whose second one is, and so on", EdgesOfWordsTest::leastSecondAndThird);
         CHECKS.sentence("The OUTCOME of a word: ! & ^ | as usual", EdgesOfWordsTest::outcomes);
@@ -31,6 +33,7 @@ public final class EdgesOfWordsTest {
         CHECKS.sentence("all ones before it in that and, all xors before it in that decision",
                 EdgesOfWordsTest::inThatAndInThatDecision);
         CHECKS.sentence("In a SHORT decision: ^ decides nothing", EdgesOfWordsTest::behindXor);
+        CHECKS.sentence("In a SHORT decision .. of six conditions", EdgesOfWordsTest::allWordsOfSix);
         CHECKS.sentence("a condition is EVALUATED by a word if it is at one place at least",
                 EdgesOfWordsTest::atOnePlaceAtLeast);
         CHECKS.sentence("never evaluated", EdgesOfWordsTest::neverEvaluated);
@@ -272,6 +275,26 @@ public final class EdgesOfWordsTest {
         }
     }
 
+    /** A is always true, B never, each of them with each D that there can be. */
+    private static void nothingOfDecisionsBefore() {
+        for (int a = 0; a < 3; a++) {
+            for (int b = NONE; b < 3; b++) {
+                if (a != b) {
+                    MaskedCauses m = withRange(-20, 20);
+                    m.condition(0, a, b, 50);
+                    m.condition(2, a, b, 50);
+                    Checks.decide(m, "A", true);
+                    Checks.decide(m, "B", true);
+                    Checks.decide(m, "A", true);
+                    String what = " of " + a + " and " + b;
+                    CHECKS.due("A" + what, "1 -20", () -> m.feasible(0) + " " + m.vector(0, 1, 0));
+                    CHECKS.due("B" + what, "1 -20", () -> m.feasible(1) + " " + m.vector(1, 0, 0));
+                    CHECKS.due("A again" + what, "1 -20", () -> m.feasible(2) + " " + m.vector(2, 1, 0));
+                }
+            }
+        }
+    }
+
     private static void first(String want, int kind, int a, int b, int k) {
         MaskedCauses m = withRange(-20, 20);
         m.condition(kind, a, b, k);
@@ -421,6 +444,21 @@ public final class EdgesOfWordsTest {
         evaluated("012 012 012 012 012 012 012 012", "A^A^(B^C)");
         evaluated("01 01 012 012 01 01 012 012", "A^B&C");
         evaluated("01 01 01 01", "A^!A^B");
+    }
+
+    /** A condition is evaluated if all before it are true, with &, or false, with |. */
+    private static void allWordsOfSix() {
+        MaskedCauses and = decided("A&B&C&D&E&F", true);
+        MaskedCauses or = decided("A|B|C|D|E|F", true);
+        for (int word = 0; word < 64; word++) {
+            for (int i = 0; i < 6; i++) {
+                int w = word;
+                int condition = i;
+                int before = (1 << i) - 1;
+                CHECKS.due("& by word " + word, (word & before) == before, () -> and.evaluated(0, w, condition));
+                CHECKS.due("| by word " + word, (word & before) == 0, () -> or.evaluated(0, w, condition));
+            }
+        }
     }
 
     private static void atOnePlaceAtLeast() {

@@ -792,10 +792,12 @@ public final class MaskedCauses {
     private static final class Walk {
         // Stands for the input that a condition without a second one subtracts: always 0.
         private static final int GROUND = MOST_INPUTS;
+        // One for each two of the three inputs and the ground.
+        private static final int ROWS = 6;
 
         private final Inputs inputs;
         private final Conditions conditions;
-        private final int[][] bits = new int[6][2 * WIDEST + 1];
+        private final int[][] bits = new int[ROWS][2 * WIDEST + 1];
 
         Walk(Inputs inputs, Conditions conditions) {
             this.inputs = inputs;
